@@ -53,7 +53,7 @@ public final class ClosuresThatBounce {
 
   private final Situation now = new Situation();
   private final Situation kept = new Situation();
-  private final Machine machine = new Machine(now.program);
+  private final Machine machine = new Machine();
   private final Letters letters = new Letters();
   private final int[] rowNumbers = new int[MOST_IN_ROW];
   private final int[] refusals = new int[KINDS_OF_REFUSALS + 1];
@@ -905,7 +905,8 @@ public final class ClosuresThatBounce {
     static final int SHAPE_Q = 1;
     static final int SHAPE_PQ = 2;
     static final int SHAPE_QP = 3;
-    private static final int FUNCTION = 4;
+    static final int FUNCTION = 4;
+    private static final int NUMBER = 5;
     private static final int ABOVE_NUMBERS = GREATEST_NUMBER + 1;
 
     private final int[] kinds = new int[MOST_STEPS];
@@ -917,16 +918,11 @@ public final class ClosuresThatBounce {
       made = 0;
     }
 
-    int addFunction(int expression, int frame) {
-      return add(FUNCTION, expression, frame);
-    }
-
-    int addRecord(int shape, int p, int q) {
-      return add(shape, p, q);
-    }
-
-    /** A STEP makes at most one of them, so there is always room. */
-    private int add(int kind, int one, int two) {
+    /**
+     * A RECORD of a SHAPE has its p and its q, a FUNCTION its EXPRESSION and its FRAME. A STEP makes
+     * at most one of them, so there is always room.
+     */
+    int add(int kind, int one, int two) {
       put(kinds, made, kind);
       put(ones, made, one);
       put(twos, made, two);
@@ -939,19 +935,18 @@ public final class ClosuresThatBounce {
     }
 
     boolean isFunction(int value) {
-      return !isNumber(value) && kindOf(value) == FUNCTION;
-    }
-
-    boolean isRecord(int value) {
-      return !isNumber(value) && kindOf(value) != FUNCTION;
+      return kindOf(value) == FUNCTION;
     }
 
     boolean hasField(int value, int sign) {
-      return isRecord(value) && kindOf(value) != (sign == 'p' ? SHAPE_Q : SHAPE_P);
+      int kind = kindOf(value);
+      return kind <= SHAPE_QP && kind != (sign == 'p' ? SHAPE_Q : SHAPE_P);
     }
 
-    int shapeOf(int record) {
-      return kindOf(record);
+    /** A RECORD's is its SHAPE. */
+    int kindOf(int value) {
+      int place = value - ABOVE_NUMBERS;
+      return place >= 0 && place < kinds.length ? kinds[place] : NUMBER;
     }
 
     int fieldOf(int record, int sign) {
@@ -964,10 +959,6 @@ public final class ClosuresThatBounce {
 
     int frameOf(int function) {
       return at(twos, function - ABOVE_NUMBERS);
-    }
-
-    private int kindOf(int value) {
-      return at(kinds, value - ABOVE_NUMBERS);
     }
   }
 
@@ -1034,11 +1025,11 @@ public final class ClosuresThatBounce {
 
     final int[] globals = new int[VARIABLES];
     final Caches caches = new Caches();
-    private final Program program;
     private final Ending ending = new Ending();
     private final Cells cells = new Cells();
     private final Things things = new Things();
     private final Waiting waiting = new Waiting();
+    private Program program = new Program();
     private int mode = STOPPED;
     private int expression = 0;
     private int frame = Cells.NONE;
@@ -1046,11 +1037,8 @@ public final class ClosuresThatBounce {
     private int depth = 0;
     private boolean failed = false;
 
-    Machine(Program program) {
-      this.program = program;
-    }
-
     void takeUp(Situation situation) {
+      program = situation.program;
       copyRow(situation.globals, globals);
       caches.copyFrom(situation.caches);
     }
@@ -1075,13 +1063,11 @@ public final class ClosuresThatBounce {
       cells.forget();
       things.forget();
       waiting.forget();
+      forgetFault();
       depth = 0;
-      failed = false;
       ending.steps = 0;
       ending.greatestDepth = 0;
       ending.bounces = 0;
-      ending.causes = 0;
-      ending.lastCode = 0;
       begin(0, Cells.NONE);
     }
 
@@ -1097,7 +1083,7 @@ public final class ClosuresThatBounce {
         ending.told = program.variableOf(things.expressionOf(value));
       } else {
         ending.how = ENDED_RECORD;
-        ending.told = things.shapeOf(value);
+        ending.told = things.kindOf(value);
       }
     }
 
@@ -1131,7 +1117,7 @@ public final class ClosuresThatBounce {
       } else if (Letters.isName(sign)) {
         give(valueOfVariable(program.variableOf(expression), frame));
       } else if (sign == 'F') {
-        give(things.addFunction(expression, frame));
+        give(things.add(Things.FUNCTION, expression, frame));
       } else {
         waiting.push(expression, frame, MAKES_FIRST, 0);
         begin(program.firstOf(expression), frame);
@@ -1153,13 +1139,19 @@ public final class ClosuresThatBounce {
         case '*':
         case 'B':
         case 'C': useOneOfTwo(user, home, sign); break;
-        case '@': useForCall(user, home); break;
+        case '@':
+          if (waiting.stage() == MAKES_SECOND) {
+            call(user, home, waiting.first());
+          } else {
+            useForCall(user, home);
+          }
+          break;
         case '?': choose(user, home); break;
         case ',': begin(program.secondOf(user), home); break;
         case 'L': beginSecondWithCell(user, home, value); break;
         case 'S': store(program.variableOf(user), home); break;
-        case 'P': give(things.addRecord(Things.SHAPE_P, value, 0)); break;
-        case 'Q': give(things.addRecord(Things.SHAPE_Q, 0, value)); break;
+        case 'P': give(things.add(Things.SHAPE_P, value, 0)); break;
+        case 'Q': give(things.add(Things.SHAPE_Q, 0, value)); break;
         case 'p':
         case 'q': findField(user, sign); break;
         case 'X': failAsTold(); break;
@@ -1180,7 +1172,9 @@ public final class ClosuresThatBounce {
       } else if (sign == 'W') {
         ending.causes++;
       } else if (sign == 'Y' && isCaught(ending.codeAt(0))) {
-        catchFault(user, waiting.frame());
+        int caught = ending.codeAt(0);
+        forgetFault();
+        beginSecondWithCell(user, waiting.frame(), caught);
       }
     }
 
@@ -1188,12 +1182,10 @@ public final class ClosuresThatBounce {
       return itsCode != CODE_DEPTH && itsCode != CODE_STEPS;
     }
 
-    private void catchFault(int user, int home) {
-      int caught = ending.codeAt(0);
+    private void forgetFault() {
       failed = false;
       ending.causes = 0;
       ending.lastCode = 0;
-      beginSecondWithCell(user, home, caught);
     }
 
     private void beginSecondWithCell(int user, int home, int content) {
@@ -1208,9 +1200,9 @@ public final class ClosuresThatBounce {
       }
       int first = waiting.first();
       if (sign == 'B') {
-        give(things.addRecord(Things.SHAPE_PQ, first, value));
+        give(things.add(Things.SHAPE_PQ, first, value));
       } else if (sign == 'C') {
-        give(things.addRecord(Things.SHAPE_QP, value, first));
+        give(things.add(Things.SHAPE_QP, value, first));
       } else {
         reckon(sign, first, value);
       }
@@ -1238,11 +1230,8 @@ public final class ClosuresThatBounce {
     }
 
     private void useForCall(int user, int home) {
-      int stage = waiting.stage();
-      if (stage == CALLS) {
+      if (waiting.stage() == CALLS) {
         depth--;
-      } else if (stage == MAKES_SECOND) {
-        call(user, home, waiting.first());
       } else if (!things.isFunction(value)) {
         fail(CODE_NO_FUNCTION);
       } else {
@@ -1289,7 +1278,7 @@ public final class ClosuresThatBounce {
         fail(CODE_NO_FIELD);
         return;
       }
-      caches.see(program.siteOf(user), things.shapeOf(value));
+      caches.see(program.siteOf(user), things.kindOf(value));
       give(things.fieldOf(value, sign));
     }
 

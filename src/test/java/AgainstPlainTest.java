@@ -44,7 +44,7 @@ public final class AgainstPlainTest {
   }
 
   private void play() {
-    for (int round = 0; round < 4 && calls < 380; round++) {
+    for (int round = 0; round < 4 && calls < 350; round++) {
       String text = someText();
       for (int i = 0; i < text.length(); i++) {
         int c = text.charAt(i);

@@ -70,7 +70,7 @@ public final class ImageTest {
     String letters = "Lf0,SfFb?b@f0+pP1qB23@f1";
     ClosuresThatBounce x = Check.of(letters);
     x.image();
-    Check.tell(x, "?0?0?0?0pqWWWWWWWWWWWW12345");
+    Check.tell(x, "WWWWW?0qqqqqqqq01");
     CHECK.due("on()", x.on(), 21);
     CHECK.ends(x, letters, 0, 4, 23, 1, 1, 0);
     CHECK.due("cache(0, 1)", x.cache(0, 1), 1);

@@ -255,7 +255,7 @@ public final class RunsTest {
     }
     Check.tell(x, "Lf0,SfFa?apP@f-a16@fc");
     x.sets(2, 11);
-    for (int i = 0; i < 12; i++) {
+    for (int i = 0; i < 40; i++) {
       CHECK.ends(x, "many RECORDS", 0, 6, 8 + 11 * 9 + 3, 12, 0, 0);
     }
     x.sets(2, 0);

@@ -13,6 +13,8 @@ public final class ImageEdgesTest {
     whatIsNotOfIt();
     aRunAndNoRun();
     aLongProgramAndAShort();
+    everyPartOfTheProgram();
+    partsAtTheSamePlace();
     takingChangesNothing();
     runsAtMostNinetyNine();
     runsOfTheImage();
@@ -202,6 +204,50 @@ public final class ImageEdgesTest {
       CHECK.due("cache(" + site + ", 2)", x.cache(site, 2), 1);
       CHECK.due("cache(" + site + ", 3)", x.cache(site, 3), 1);
     }
+  }
+
+  /** Seconds and thirds, VARIABLES, SITES, and what is at the END, stand elsewhere in the other PROGRAM. */
+  private static void everyPartOfTheProgram() {
+    String[] programs = {"Lf0,SfFb?b@f0+pP1qB23@f1", "?0WWWWWWWp0Y@Fc@FddcqQ3eX1", "@Fe?e,X1q0YX5f-f60",
+        "LaWWWPWWWP1?0qqqqq0-pCa6pa"};
+    int[] expressions = {21, 23, 16, 25};
+    int[][] ends = {{0, 4, 23, 1, 1, 0}, {0, 3, 12, 1, 1, 0}, {0, 9, 11, 1, 0, 0}, {3, 1, 19, 0, 0, 0}};
+    for (int kept = 0; kept < programs.length; kept++) {
+      for (int other = 0; other < programs.length; other++) {
+        ClosuresThatBounce x = Check.of(programs[kept]);
+        CHECK.due(programs[kept] + " image()", x.image(), expressions[kept]);
+        Check.tell(x, programs[other]);
+        CHECK.ends(x, programs[other], ends[other]);
+        CHECK.due(programs[kept] + " on()", x.on(), expressions[kept]);
+        CHECK.ends(x, programs[kept], ends[kept]);
+        CHECK.due("count(1)", x.count(1), Check.of(programs[kept]).count(1));
+        CHECK.due("changes()", x.changes(), 0);
+      }
+    }
+  }
+
+  /** The same sign stands at the same place of both, but its parts, VARIABLE or SITE are others. */
+  private static void partsAtTheSamePlace() {
+    partsKept("-+455", "-4+55", 0, 4);
+    partsKept("?0+45+67", "?04+67", 0, 13);
+    partsKept("Lb7-ab", "Lc7-ac", 0, -7);
+    partsKept("SbP1", "Lb0SbP1", 3, 1);
+    partsKept("Fb1", "Fc1", 1, 1);
+    ClosuresThatBounce x = Check.of("+pP1qQ2");
+    x.image();
+    Check.tell(x, "ppPP1");
+    x.on();
+    x.run();
+    CHECK.due("cache(0, 1)", x.cache(0, 1), 1);
+    CHECK.due("cache(1, 1)", x.cache(1, 1), 2);
+  }
+
+  private static void partsKept(String letters, String other, int how, int told) {
+    ClosuresThatBounce x = Check.of(letters);
+    x.image();
+    Check.tell(x, other);
+    x.on();
+    CHECK.ends(x, letters, how, told);
   }
 
   private static void takingChangesNothing() {

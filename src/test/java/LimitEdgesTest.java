@@ -10,6 +10,7 @@ public final class LimitEdgesTest {
     aBounceIsNotDeeper();
     deeperTillItHasItsValue();
     deeperTillItHasAFault();
+    aCallThatWasNotBegun();
     theGreatestDepth();
     fourHundredSteps();
     theStepTooMany();
@@ -85,6 +86,19 @@ public final class LimitEdgesTest {
     CHECK.ends(x, "a FAULT 12 deep", 3, 13, 10 + 11 * 9 + 4 + 1 + 3 + 4, 12, 0, 0);
     x.sets(2, 11);
     CHECK.ends(x, "12 deep again", 3, 13, 10 + 11 * 9 + 4 + 1 + 3 + 11 * 9 + 4, 12, 0, 0);
+  }
+
+  /** A FAULT of its first or its second ends a CALL that is not going on yet: no DEPTH is taken back. */
+  private static void aCallThatWasNotBegun() {
+    String[] faults = {"Y@X11d0", "Y@1X1d0", "Y@FccX1d0", "Y@FccpX1d0"};
+    int[] steps = {5, 4, 6, 7};
+    for (int i = 0; i < faults.length; i++) {
+      ClosuresThatBounce x = Check.of("Lf0,SfFa?a+a@f-a10," + faults[i] + "@fb");
+      x.sets(1, 11);
+      CHECK.ends(x, faults[i] + ", then 12 deep", 0, 66, 6 + steps[i] + 105, 12, 0, 0);
+      x.sets(1, 12);
+      CHECK.ends(x, faults[i] + ", then 13 deep", 3, 5, 6 + steps[i] + 3 + 12 * 9, 12, 0, 0);
+    }
   }
 
   /** "the greatest DEPTH": not the latest. */

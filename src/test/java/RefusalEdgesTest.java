@@ -49,6 +49,7 @@ public final class RefusalEdgesTest {
     lots();
     on();
     whatIsNoRefusal();
+    theLastThatAreTaken();
     eachKindIsCountedByItself();
     CHECK.finish();
   }
@@ -317,6 +318,43 @@ public final class RefusalEdgesTest {
     TWINS.take("program() of 96 letters", States::full, x -> x.program(), -2040);
     TWINS.take("clear()", States::fresh, x -> x.clear(), 0);
     TWINS.take("clear()", States::full, x -> x.clear(), 16);
+  }
+
+  /** Beside each first number that is refused stands a last one that is not. */
+  private static void theLastThatAreTaken() {
+    for (int v : new int[] {0, 5}) {
+      TWINS.take("global(" + v + ")", States::used, x -> x.global(v));
+      TWINS.take("ended(" + v + ")", States::used, x -> x.ended(v));
+      TWINS.take("thinks(" + v + ")", States::used, x -> x.thinks(v));
+      TWINS.take("whatIs(" + v + ")", States::used, x -> x.whatIs(v));
+      for (int n : new int[] {-9999, 9999}) {
+        TWINS.take("sets(" + v + ", " + n + ")", States::used, x -> x.sets(v, n));
+        TWINS.take("solve(" + v + ", " + n + ")", States::used, x -> x.solve(v, n));
+        TWINS.take("with(" + v + ", " + n + ", 0)", States::used, x -> x.with(v, n, 0));
+        TWINS.take("with(" + v + ", " + n + ", 5)", States::used, x -> x.with(v, n, 5));
+      }
+      for (int part : new int[] {0, 1}) {
+        TWINS.take("fewest(" + v + ", " + part + ")", States::used, x -> x.fewest(v, part));
+        TWINS.take("mean(" + v + ", " + part + ")", States::used, x -> x.mean(v, part));
+      }
+    }
+    for (int part : new int[] {0, 1}) {
+      for (int n : new int[] {1, 20}) {
+        TWINS.take("again(" + n + ", " + part + ")", States::used, x -> x.again(n, part));
+        TWINS.take("lots(" + n + ", least, " + part + ")", States::used, x -> x.lots(n, LEAST, part));
+        TWINS.take("lots(" + n + ", greatest, " + part + ")", States::used, x -> x.lots(n, GREATEST, part));
+      }
+      TWINS.take("likely(2, " + part + ")", States::used, x -> x.likely(2, part));
+      TWINS.take("likely(20, " + part + ")", States::used, x -> x.likely(20, part));
+    }
+    for (int what : new int[] {0, 3}) {
+      TWINS.take("cache(0, " + what + ")", States::used, x -> x.cache(0, what));
+      TWINS.take("cache(1, " + what + ")", States::used, x -> x.cache(1, what));
+    }
+    TWINS.take("letter(0)", States::used, x -> x.letter(0), 3);
+    TWINS.take("letter(255)", States::used, x -> x.letter(255), 3);
+    TWINS.take("row(0)", States::used, x -> x.row(0), 3);
+    TWINS.take("row(99)", States::used, x -> x.row(99), 3);
   }
 
   /** "11 .. 16 REFUSALS -1 .. -6": each kind has a count of its own, a call is counted once. */

@@ -29,9 +29,15 @@ final class Twins {
 
   /** A call that is taken, or that answers what is no REFUSAL, counts nothing. */
   void take(String call, Supplier<ClosuresThatBounce> state, ToLongFunction<ClosuresThatBounce> does, long want) {
+    check.due(call, does.applyAsLong(state.get()), want);
+    take(call, state, does);
+  }
+
+  /** The same, whatever it answers. */
+  void take(String call, Supplier<ClosuresThatBounce> state, ToLongFunction<ClosuresThatBounce> does) {
     ClosuresThatBounce x = state.get();
     ClosuresThatBounce twin = state.get();
-    check.due(call, does.applyAsLong(x), want);
+    does.applyAsLong(x);
     for (int what = 11; what <= 16; what++) {
       check.due(call + ", then count(" + what + ")", x.count(what), twin.count(what));
     }

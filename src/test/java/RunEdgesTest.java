@@ -139,6 +139,9 @@ public final class RunEdgesTest {
       CHECK.ends(x, "@" + none, 3, 2, none.replaceAll("Fa0", "F").length() + 1, 0, 0, 0);
       CHECK.due("the second one is not made", x.global(0), 0);
     }
+    for (int n : new int[] {-9999, -1, 0, 1, 9998, 9999}) {
+      with("@a1", n, 0, 3, 2);
+    }
     CHECK.ends("@X12", 3, 11, 3);
     CHECK.ends("@Fa1X2", 3, 12, 4, 0, 0, 0);
   }
@@ -150,6 +153,10 @@ public final class RunEdgesTest {
     }
     for (String none : new String[] {"0", "-01", "Fa0", "P1"}) {
       CHECK.ends("q" + none, 3, 3);
+    }
+    for (int n : new int[] {-9999, -1, 0, 1, 9998, 9999}) {
+      with("pa", n, 0, 3, 3);
+      with("qa", n, 0, 3, 3);
     }
     CHECK.ends("pP1", 0, 1, 3);
     CHECK.ends("qQ2", 0, 2, 3);

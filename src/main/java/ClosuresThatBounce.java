@@ -24,6 +24,7 @@ public final class ClosuresThatBounce {
   private static final int RUNS_OF_MEAN = 10;
   private static final int NUMBERS_ASKED = 16;
   private static final int DRAWS_BELOW = 10;
+  private static final int ALL_BUT_THE_SIGNS_BIT = 0x7fffffff;
 
   private static final int NOBODY = -1;
   private static final int OTHER = -2;
@@ -421,7 +422,7 @@ public final class ClosuresThatBounce {
   }
 
   private static int drawOf(int seed) {
-    return (seed & Integer.MAX_VALUE) / 256 % DRAWS_BELOW;
+    return (seed & ALL_BUT_THE_SIGNS_BIT) / 256 % DRAWS_BELOW;
   }
 
   private static long partOfFraction(long above, long below, int part) {

@@ -20,6 +20,8 @@ public final class LanguageTest {
     CHECK.due("lambdas and arrows", found(bare, "->"), 0);
     CHECK.due("method references", found(bare, "::"), 0);
     CHECK.due("functions that throw", found(bare, "Exact\\b"), 0);
+    CHECK.due("what is taken of the library beside what rule 4 lists",
+        found(bare, "\\b(Integer|Long|Math|System|String|Arrays)\\.(?!(bitCount|min|max|arraycopy)\\()"), 0);
     CHECK.due("static blocks", found(bare, "static\\s*\\{"), 0);
     CHECK.due("rows read or written without a look at the index", found(bare, "\\w\\[[^\\]]+\\]"),
         found(bare, "new int\\[[^\\]]+\\]") + 5);
